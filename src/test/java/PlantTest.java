@@ -272,6 +272,7 @@ public final class PlantTest {
     private static void negativeHeat() {
         IcePlant x = new IcePlant();
         x.addSilo(1, 2, 100);
+        x.set(1, 1);
         x.setTemperature(1, -20);
         x.setTemperature(2, 0);
         x.setTemperature(3, 1);
@@ -280,14 +281,19 @@ public final class PlantTest {
         Check.due("no heat, no loss", x.block(0, 0, 1), 50);
         x.pass(1);
         Check.due("1 * 100 / 20", x.block(0, 0, 1), 45);
-        x.setStrength(0, 39);
-        x.pass(21);
-        Check.due("the next day has the same hours: 20 times 19 is too much", x.total(6), 1);
-        x.setTemperature(1, 5);
+        x.setTemperature(4, 5);
         x.setStrength(0, 7);
-        int before = x.block(0, 0, 1);
         x.pass(1);
-        Check.due("5 * 7 / 20 rounded down", x.block(0, 0, 1), before - 1);
+        Check.due("5 * 7 / 20 rounded down", x.block(0, 0, 1), 44);
+        x.setTemperature(5, 45);
+        x.setStrength(0, 100);
+        x.pass(1);
+        Check.due("45 * 100 / 20 is more than there is", x.block(0, 0, 0), 1);
+        x.setStrength(0, 0);
+        x.pass(18);
+        x.setStrength(0, 100);
+        x.pass(1);
+        Check.due("the hours of the next day have the same temperatures", x.block(0, 0, 1), 35);
     }
 
     private static void topBlockIsThatBeforeMelting() {
