@@ -13,6 +13,7 @@ public final class BoatsTest {
         sequenceByShare();
         shareNeedsLongNumbers();
         sequenceIsThatOfTheBeginning();
+        servedInSequence();
         creditLimit();
         wholeOrders();
         oldestBlockFirst();
@@ -267,6 +268,23 @@ public final class BoatsTest {
         Check.due("the next in the sequence", x.orderProperty(0, 2), 100);
         Check.due("the latest receipt", x.receipt(0, 0), 0);
         Check.due("the receipt before it", x.receipt(1, 0), 1);
+    }
+
+    private static void servedInSequence() {
+        IcePlant x = plant(30, 3, 1, 4, 5, 2, 6);
+        x.set(1, 12);
+        for (int boat = 0; boat < 6; boat++) {
+            x.order(boat, 1, 10 + (boat * 5 + 2) % 6, false);
+        }
+        int[][] due = {{0, 1, 2, 3, 4, 5}, {5, 3, 2, 0, 4, 1}, {2, 1, 0, 5, 4, 3}, {5, 3, 2, 0, 4, 1}};
+        for (int priority = 0; priority < 4; priority++) {
+            x.set(2, priority);
+            x.pass(1);
+            for (int turn = 0; turn < 6; turn++) {
+                Check.due("priority " + priority + ", turn " + turn, x.receipt(5 - turn, 0), due[priority][turn]);
+            }
+            x.undo();
+        }
     }
 
     private static void creditLimit() {

@@ -5,6 +5,7 @@ public final class ForecastTest {
         massAfterWithOrders();
         completeIn();
         completeInWaits();
+        forecastsSeeEachOrder();
         bestRule();
         bestRuleLooksAtAllSilos();
         quote();
@@ -81,6 +82,34 @@ public final class ForecastTest {
         Check.due("the debt of the first stops the second", x.completeIn(3), -1);
         x.pay(0, 750);
         Check.due("the debt is not greater than the limit", x.completeIn(3), 2);
+    }
+
+    private static void forecastsSeeEachOrder() {
+        IcePlant x = new IcePlant();
+        x.addSilo(30, 0, 0);
+        x.addBoat(7);
+        x.addBoat(9);
+        x.set(1, 1);
+        x.set(2, 1);
+        x.order(0, 100, 50, false);
+        x.order(1, 100, 50, false);
+        Check.due("the greater catch comes first", x.completeIn(1), 2);
+        Check.due("the smaller catch comes later", x.completeIn(0), 4);
+        x.setCatch(0, 10);
+        Check.due("now the other way round", x.completeIn(1), 4);
+        Check.due("now the other way round", x.completeIn(0), 2);
+        x.cancel(1);
+        x.cancel(0);
+        x.order(1, 200, 50, true);
+        Check.due("a whole order leaves the ice where it is", x.massAfter(3), 150);
+        Check.due("until there is enough", x.massAfter(4), 0);
+        Check.due("complete then", x.completeIn(2), 4);
+        x.pass(4);
+        x.set(3, 2000);
+        x.order(1, 50, 50, false);
+        x.order(0, 50, 50, false);
+        Check.due("the debt of the boat 1 is greater than the limit", x.completeIn(3), -1);
+        Check.due("that of the boat 0 is not", x.completeIn(4), 1);
     }
 
     private static void bestRule() {

@@ -16,7 +16,9 @@ public final class PlantTest {
         negativeHeat();
         topBlockIsThatBeforeMelting();
         meltedBlocksLeave();
+        lossesAreRounded();
         production();
+        fullStore();
         Check.end("PlantTest");
     }
 
@@ -222,6 +224,12 @@ public final class PlantTest {
         Check.due("the mass of the next hours", x.pass(3), 200);
         Check.due("nothing more is wanted", x.pass(1), 0);
         Check.due("delivered", x.total(2), 400);
+        Check.due("the numbers go on", x.block(0, 0, 0), 8);
+        x.undo();
+        x.undo();
+        x.set(1, 8);
+        Check.due("another way", x.pass(1), 200);
+        Check.due("the numbers after undo", x.block(0, 0, 0), 8);
     }
 
     private static void passLimitOfTime() {
@@ -327,6 +335,61 @@ public final class PlantTest {
         Check.due("top", x.block(0, 2, 0), 3);
         Check.index("no fourth", () -> x.block(0, 3, 0));
         Check.due("made = melted + left", x.total(1), x.total(3) + x.total(4));
+    }
+
+    private static void lossesAreRounded() {
+        int[][] due = {
+            {1, 67, 3, 10, 3}, {1, 200, 100, 10, 200}, {1, 200, 99, 10, 198}, {1, 1, 1, 10, 1}, {1, 50, 2, 10, 1},
+            {2, 200, 99, 40, 198}, {2, 200, 39, 1, 1}, {2, 200, 19, 1, 0}, {2, 200, 100, 45, 200}, {0, 3, 4, 10, 3}};
+        for (int[] row : due) {
+            IcePlant x = new IcePlant();
+            x.addSilo(1, row[0], row[2]);
+            x.set(0, row[1]);
+            x.setTemperature(1, row[3]);
+            x.pass(1);
+            x.set(1, 0);
+            x.pass(1);
+            Check.due("rule " + row[0] + ", mass " + row[1] + ", strength " + row[2], x.silo(0, 5), row[4]);
+            Check.due("without mass it leaves", x.silo(0, 3), row[4] == row[1] ? 0 : 1);
+        }
+    }
+
+    private static void fullStore() {
+        IcePlant x = new IcePlant();
+        for (int silo = 0; silo < 5; silo++) {
+            x.addSilo(30, 0, 0);
+        }
+        x.set(1, 10);
+        x.pass(15);
+        Check.due("150 blocks", x.total(6), 150);
+        Check.due("nothing has melted in five silos", x.total(3), 0);
+        Check.due("none is missed", x.total(5), 0);
+        Check.due("the last block", x.block(4, 29, 0), 149);
+        Check.due("its age", x.block(4, 29, 2), 1);
+        x.set(1, 0);
+        x.addBoat(0);
+        x.order(0, 149 * 50, 9, false);
+        Check.due("all but one in an hour", x.pass(1), 149 * 50);
+        Check.due("the last one has moved down", x.block(4, 0, 0), 149);
+        x.undo();
+        x.cancel(0);
+        x.order(0, 7500, 9, true);
+        Check.due("all in an hour", x.pass(1), 7500);
+        Check.due("no block is left", x.total(6), 0);
+        for (int i = 0; i < 4; i++) {
+            x.undo();
+        }
+        Check.due("no order", x.total(9), 0);
+        x.set(1, 1);
+        x.pass(1);
+        Check.due("one is missed", x.total(5), 1);
+        x.undo();
+        x.order(0, 50, 1, false);
+        x.pass(1);
+        x.set(0, 77);
+        x.pass(1);
+        Check.due("the next serial number after undo", x.block(0, 29, 0), 150);
+        Check.due("its mass", x.block(0, 29, 1), 77);
     }
 
     private static void production() {

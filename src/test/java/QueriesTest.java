@@ -54,6 +54,7 @@ public final class QueriesTest {
         Check.index("silo -1", () -> x.block(-1, 0, 0));
         Check.index("silo 2", () -> x.block(2, 0, 0));
         Check.index("position -1", () -> x.block(0, -1, 0));
+        Check.index("position -1 of the second", () -> x.block(1, -1, 0));
         Check.index("position 4", () -> x.block(0, 4, 0));
         Check.index("an empty silo before the property", () -> x.block(1, 0, 3));
         Check.argument("property -1", () -> x.block(0, 0, -1));
@@ -119,22 +120,47 @@ public final class QueriesTest {
         Check.index("the index before the property", () -> x.receipt(16, 5));
         Check.argument("property -1", () -> x.receipt(0, -1));
         Check.argument("property 5", () -> x.receipt(0, 5));
-        int code = 0;
         for (int number = 1; number <= 20; number++) {
             int index = 20 - number;
             int price = number * (number > 6 ? 20 : 15);
-            code = Integer.rotateLeft(code, 5) ^ (number * 31 + price);
             if (index < 16) {
                 Check.due("order of " + index, x.receipt(index, 0), 0);
                 Check.due("mass of " + index, x.receipt(index, 1), number);
                 Check.due("price of " + index, x.receipt(index, 2), price);
                 Check.due("time of " + index, x.receipt(index, 3), number - 1);
-                Check.due("code of " + index, x.receipt(index, 4), code);
+                Check.due("code of " + index, x.receipt(index, 4), codeUpTo(number));
             }
         }
         x.undo();
         Check.due("the ring after undo", x.receipt(15, 1), 4);
         Check.due("the latest after undo", x.receipt(0, 1), 19);
+        for (int i = 0; i < 4; i++) {
+            x.undo();
+        }
+        // Rows of the ring are written for another order, and then taken back.
+        x.cancel(0);
+        x.order(0, 9999, 200, false);
+        x.pass(3);
+        Check.due("another order", x.receipt(2, 0), 1);
+        x.undo();
+        Check.due("code before the next", x.receipt(0, 4), codeUpTo(17));
+        for (int index = 0; index < 16; index++) {
+            int number = 17 - index;
+            Check.due("order after more undo", x.receipt(index, 0), 0);
+            Check.due("mass after more undo", x.receipt(index, 1), number);
+            Check.due("code after more undo", x.receipt(index, 4), codeUpTo(number));
+            Check.due("price after more undo", x.receipt(index, 2), number * (number > 6 ? 20 : 15));
+            Check.due("time after more undo", x.receipt(index, 3), number - 1);
+        }
+    }
+
+    /** Hour after hour a receipt of the order 0, for a block that has one kilogram more each time. */
+    private static int codeUpTo(int last) {
+        int code = 0;
+        for (int number = 1; number <= last; number++) {
+            code = Integer.rotateLeft(code, 5) ^ (number * 31 + number * (number > 6 ? 20 : 15));
+        }
+        return code;
     }
 
     private static void account() {
@@ -191,6 +217,7 @@ public final class QueriesTest {
         Check.due("third account", x.findAccount(1, 1), 2);
         x.undo();
         Check.due("gone after undo", x.findAccount(1, 1), -1);
+        Check.due("accounts after undo", x.total(14), 2);
     }
 
     private static void setting() {
@@ -235,6 +262,13 @@ public final class QueriesTest {
         Check.dueDouble("no blocks", x.meanAge(), 0.0);
         x.pass(1);
         Check.dueDouble("two blocks", x.meanAge(), 1.0);
+        x.undo();
+        x.set(1, 1);
+        x.pass(1);
+        Check.dueDouble("one block", x.meanAge(), 1.0);
+        x.undo();
+        x.undo();
+        x.pass(1);
         x.pass(1);
         Check.dueDouble("three blocks", x.meanAge(), 5.0 / 3.0);
         x.addSilo(30, 0, 0);

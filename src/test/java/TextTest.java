@@ -6,6 +6,7 @@ public final class TextTest {
         textsWithoutError();
         errors();
         executeCommands();
+        executeMove();
         executeStops();
         executeErrors();
         executeIsOneCall();
@@ -59,6 +60,10 @@ public final class TextTest {
         Check.due("kind in " + text, x.errorKind(), kind);
         Check.due("position again in " + text, x.errorPosition(), position);
         Check.due("the text stays: " + text, x.clear(), text.length());
+        IcePlant y = new IcePlant();
+        type(y, text);
+        Check.due("kind asked first in " + text, y.errorKind(), kind);
+        Check.due("then position in " + text, y.errorPosition(), position);
     }
 
     private static void textsWithoutError() {
@@ -115,6 +120,17 @@ public final class TextTest {
         Check.due("the moved block is on top of the other silo", x.total(6), 2);
         Check.due("delivered", x.total(2), 200);
         Check.due("the buffer is empty", x.clear(), 0);
+    }
+
+    private static void executeMove() {
+        IcePlant x = new IcePlant();
+        x.addSilo(3, 0, 0);
+        x.addSilo(3, 0, 0);
+        type(x, "h1;m0,1;m0,1;m1,0;m1,1;h1");
+        Check.due("three moves, and none from a silo to itself", x.execute(), 4);
+        Check.due("back again", x.block(0, 0, 0), 0);
+        Check.due("moved", x.block(1, 0, 0), 1);
+        Check.due("time", x.total(0), 1);
     }
 
     private static void executeStops() {
