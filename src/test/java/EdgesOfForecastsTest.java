@@ -204,6 +204,17 @@ public final class EdgesOfForecastsTest {
         Check.due("150, 44 + 100, 75 + 50, 150 in three hours", two.bestRule(0, 3), 2);
         two.addSilo(1, 0, 0);
         Check.due("a silo in which nothing melts", two.bestRule(2, 24), 0);
+        IcePlant next = new IcePlant();
+        next.addSilo(1, 2, 0);
+        next.addSilo(1, 1, 10);
+        next.set(0, 200);
+        next.pass(1);
+        next.setTemperature(1, 45);
+        Check.due("of silo 1, whose rule is 1: 10, 20, 22, 10", next.bestRule(1, 1), 0);
+        next.setRule(1, 3);
+        Check.due("whose rule is 3", next.bestRule(1, 1), 0);
+        next.setTemperature(1, 5);
+        Check.due("10, 20, 2, 10", next.bestRule(1, 1), 2);
         IcePlant sold = one(100, 10, 0);
         sold.addBoat(0);
         sold.order(0, 100, 1, true);

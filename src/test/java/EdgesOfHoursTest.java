@@ -496,6 +496,16 @@ public final class EdgesOfHoursTest {
             Check.due("hours left of " + order, x.orderProperty(order, 3), second[order][0]);
             Check.due("state of " + order, x.orderProperty(order, 5), second[order][1]);
         }
+        IcePlant closed = Stories.withBoats(0);
+        closed.order(0, 300, 9, false);
+        closed.order(0, 9999, 1, false);
+        closed.order(0, 9999, 9, false);
+        closed.pass(1);
+        closed.cancel(2);
+        closed.set(1, 12);
+        Check.due("what is left is not for orders that have expired or been cancelled", closed.pass(1), 200);
+        Check.due("the expired one", closed.orderProperty(1, 2), 0);
+        Check.due("the cancelled one", closed.orderProperty(2, 2), 0);
         IcePlant y = new IcePlant();
         y.addBoat(0);
         for (int order = 0; order < 20; order++) {

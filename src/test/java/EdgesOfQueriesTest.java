@@ -121,6 +121,13 @@ public final class EdgesOfQueriesTest {
         Check.due("the most open orders", y.boat(0, 3), 20);
         y.pass(1);
         Check.due("all have expired", y.boat(0, 3), 0);
+        IcePlant z = Stories.withBoats(0, 0, 0, 0);
+        for (int order = 0; order < 10; order++) {
+            z.order(order < 1 ? 0 : order < 3 ? 1 : order < 6 ? 2 : 3, 9999, 9, order % 3 > 0);
+        }
+        for (int boat = 0; boat < 4; boat++) {
+            Check.due("open orders of boat " + boat, z.boat(boat, 3), boat + 1);
+        }
         Sentences.test("`boat`: number of a boat");
         Check.range("boat of two", 0, 1, Check.INDEX, value -> x.boat(value, 0));
         IcePlant full = Stories.full();
