@@ -1,17 +1,24 @@
-/** All promises: long runs of mixed calls, each answer held against that of the model. */
+/**
+ * All promises: runs of mixed calls, each answer held against that of the model. A run ends with the
+ * 512th call of its plant, because what later calls answer is free; what there is is asked between the
+ * changes, and the arguments are chosen by what the model knows.
+ */
 public final class ModelTest {
-    private static final int RUNS = 400;
-    private static final int CALLS = 220;
+    private static final int RUNS = 3000;
+    private static final int CALLS = 512;
     private static final int[] CODES = {'h', 'o', 'c', 'p', 'm', ';', ',', '!', '0', '1', '9', ' '};
 
     private final IcePlant plant = new IcePlant();
     private final Model model = new Model();
     private final int run;
+    /** Such a run places as many orders as there may be. */
+    private final boolean isForOrders;
     private long seed;
-    private String call = "";
+    private int calls;
 
     private ModelTest(int run) {
         this.run = run;
+        isForOrders = run % 4 == 0;
         seed = run * 7919L + 17;
     }
 
@@ -24,13 +31,15 @@ public final class ModelTest {
 
     private void go() {
         begin();
-        for (int number = 0; number < CALLS; number++) {
-            step();
-            if (number % 8 == 0) {
-                compareAll();
+        while (calls < CALLS) {
+            if (isForOrders && any(3) != 0) {
+                order(1 + any(60), 1 + any(6));
+            } else if (any(5) < 3) {
+                ask();
+            } else {
+                step();
             }
         }
-        compareAll();
     }
 
     private int any(int end) {
@@ -55,16 +64,21 @@ public final class ModelTest {
     }
 
     private int silo() {
-        return item((int) plant.total(7));
+        return item(model.now.silos.size());
     }
 
     private int boat() {
-        return item((int) plant.total(8));
+        return item(model.now.boats.size());
     }
 
     private int order() {
-        int count = (int) plant.total(9);
+        int count = model.now.orders.size();
         return any(2) == 0 ? item(count) : Math.max(0, count - 1 - any(20));
+    }
+
+    private int position(int silo) {
+        boolean there = silo >= 0 && silo < model.now.silos.size();
+        return item(there ? model.now.silos.get(silo).ice.size() : 0);
     }
 
     /** Catches that are often alike, so that the sequence is often decided by the numbers. */
@@ -94,12 +108,7 @@ public final class ModelTest {
             int hours = any(4) == 0 ? near(1, 48) : near(1, 4);
             compare("pass " + hours, () -> plant.pass(hours), () -> model.pass(hours));
         } else if (kind < 16) {
-            int boat = boat();
-            int wanted = any(3) == 0 ? near(1, 9999) : near(1, 300);
-            int hours = any(3) == 0 ? near(1, 200) : near(1, 12);
-            boolean whole = any(3) == 0;
-            compare("order " + boat + " " + wanted + " " + hours + " " + whole,
-                    () -> plant.order(boat, wanted, hours, whole), () -> model.order(boat, wanted, hours, whole));
+            order(any(3) == 0 ? near(1, 9999) : near(1, 300), any(3) == 0 ? near(1, 200) : near(1, 12));
         } else if (kind < 18) {
             int number = order();
             compare("cancel " + number, () -> plant.cancel(number), () -> model.cancel(number));
@@ -120,6 +129,13 @@ public final class ModelTest {
         } else {
             foresee();
         }
+    }
+
+    private void order(int wanted, int hours) {
+        int boat = boat();
+        boolean whole = any(3) == 0;
+        compare("order " + boat + " " + wanted + " " + hours + " " + whole,
+                () -> plant.order(boat, wanted, hours, whole), () -> model.order(boat, wanted, hours, whole));
     }
 
     private void change() {
@@ -246,52 +262,92 @@ public final class ModelTest {
     }
 
     private int boat(int seldom) {
-        return any(12) == 0 ? seldom : any(Math.max(1, (int) plant.total(8)));
+        return any(12) == 0 ? seldom : any(Math.max(1, model.now.boats.size()));
+    }
+
+    private void ask() {
+        switch (any(5)) {
+            case 0:
+                int property = near(0, 15);
+                compare("total " + property, () -> plant.total(property), () -> model.total(property));
+                break;
+            case 1:
+                askAboutStore();
+                break;
+            case 2:
+                askAboutBoats();
+                break;
+            case 3:
+                askAboutPapers();
+                break;
+            default:
+                askAboutTheRest();
+                break;
+        }
+    }
+
+    private void askAboutStore() {
+        int silo = silo();
+        if (any(2) == 0) {
+            int property = near(0, 5);
+            compare("silo " + silo + " " + property,
+                    () -> plant.silo(silo, property), () -> model.silo(silo, property));
+        } else {
+            int position = position(silo);
+            int property = near(0, 2);
+            compare("block " + silo + " " + position + " " + property,
+                    () -> plant.block(silo, position, property), () -> model.block(silo, position, property));
+        }
+    }
+
+    private void askAboutBoats() {
+        if (any(3) == 0) {
+            int boat = boat();
+            int property = near(0, 3);
+            compare("boat " + boat + " " + property,
+                    () -> plant.boat(boat, property), () -> model.boat(boat, property));
+        } else {
+            int order = order();
+            int property = near(0, 6);
+            compare("orderProperty " + order + " " + property,
+                    () -> plant.orderProperty(order, property), () -> model.orderProperty(order, property));
+        }
+    }
+
+    private void askAboutPapers() {
+        if (any(2) == 0) {
+            int index = item(Math.min(16, model.now.receipts.size()));
+            int property = near(0, 4);
+            compare("receipt " + index + " " + property,
+                    () -> plant.receipt(index, property), () -> model.receipt(index, property));
+        } else if (any(3) != 0) {
+            int account = item(model.now.accounts.size());
+            int property = near(0, 3);
+            compare("account " + account + " " + property,
+                    () -> plant.account(account, property), () -> model.account(account, property));
+        } else {
+            int boat = boat();
+            int band = near(0, 1);
+            compare("findAccount " + boat + " " + band,
+                    () -> plant.findAccount(boat, band), () -> model.findAccount(boat, band));
+        }
+    }
+
+    private void askAboutTheRest() {
+        if (any(2) == 0) {
+            int index = near(0, 7);
+            compare("setting " + index, () -> plant.setting(index), () -> model.setting(index));
+        } else {
+            // The bits of the double, so that the answers are the same only if they are so to the last.
+            compare("meanAge", () -> Double.doubleToLongBits(plant.meanAge()),
+                    () -> Double.doubleToLongBits(model.meanAge()));
+        }
     }
 
     private void compare(String made, Check.Call real, Check.Call wanted) {
-        call = "run " + run + ", " + made;
-        Check.due(call, real, Check.outcome(wanted));
-    }
-
-    private void compareAll() {
-        String after = call + ", then ";
-        for (int p = -1; p <= 16; p++) {
-            int property = p;
-            Check.due(after + "total " + p, () -> plant.total(property), Check.outcome(() -> model.total(property)));
-            Check.due(after + "setting " + p, () -> plant.setting(property), Check.outcome(() -> model.setting(property)));
-        }
-        Check.dueDouble(after + "meanAge", plant.meanAge(), model.meanAge());
-        for (int i = -1; i <= 16; i++) {
-            for (int p = -1; p <= 7; p++) {
-                compareItem(after, i, p);
-            }
-        }
-        for (int order = 16; order <= plant.total(9); order++) {
-            for (int p = 0; p <= 6; p++) {
-                int number = order;
-                int property = p;
-                Check.due(after + "orderProperty " + order + " " + p, () -> plant.orderProperty(number, property),
-                        Check.outcome(() -> model.orderProperty(number, property)));
-            }
-        }
-    }
-
-    private void compareItem(String after, int i, int p) {
-        String what = i + " " + p;
-        Check.due(after + "silo " + what, () -> plant.silo(i, p), Check.outcome(() -> model.silo(i, p)));
-        Check.due(after + "boat " + what, () -> plant.boat(i, p), Check.outcome(() -> model.boat(i, p)));
-        Check.due(after + "orderProperty " + what, () -> plant.orderProperty(i, p), Check.outcome(() -> model.orderProperty(i, p)));
-        Check.due(after + "receipt " + what, () -> plant.receipt(i, p), Check.outcome(() -> model.receipt(i, p)));
-        Check.due(after + "account " + what, () -> plant.account(i, p), Check.outcome(() -> model.account(i, p)));
-        Check.due(after + "findAccount " + what, () -> plant.findAccount(i, p), Check.outcome(() -> model.findAccount(i, p)));
-        if (i > 5 || p > 3) {
-            return;
-        }
-        for (int position = -1; position <= 30; position++) {
-            int place = position;
-            Check.due(after + "block " + i + " " + position + " " + p, () -> plant.block(i, place, p),
-                    Check.outcome(() -> model.block(i, place, p)));
+        if (calls < CALLS) {
+            calls++;
+            Check.due("run " + run + ", call " + calls + ", " + made, real, Check.outcome(wanted));
         }
     }
 }
