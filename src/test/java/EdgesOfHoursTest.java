@@ -398,6 +398,26 @@ public final class EdgesOfHoursTest {
         Check.due("the last blocks", y.orderProperty(19, 2), 10000);
         Check.due("none for the rest", y.orderProperty(20, 2), 0);
         Check.due("no block in a silo", y.total(6), 0);
+        allBlocksForOneOrder();
+    }
+
+    private static void allBlocksForOneOrder() {
+        int[][] due = {{149, 149}, {150, 150}, {9999, 150}};
+        for (int[] row : due) {
+            IcePlant x = new IcePlant();
+            for (int silo = 0; silo < 5; silo++) {
+                x.addSilo(30, 0, 0);
+            }
+            x.addBoat(0);
+            x.set(0, 1);
+            x.set(1, 12);
+            x.pass(13);
+            x.set(1, 0);
+            Check.due("as many blocks as there can be", x.total(6), 150);
+            x.order(0, row[0], 9, row[0] <= 150);
+            Check.due("an order of " + row[0] + " with 150 blocks of 1", x.pass(1), row[1]);
+            Check.due("blocks that are left", x.total(6), 150 - row[1]);
+        }
     }
 
     private static void completion() {
